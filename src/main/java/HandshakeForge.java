@@ -41,11 +41,12 @@ public final class HandshakeForge {
     private static final int READY = 0, ENDED = 1, WAITS = 2, LOST = 3;
 
     private final Tape tape = new Tape();
-    private final Compiler compiler = new Compiler(tape);
-    private final Work work = new Work();
     private Circuit circuit = new Circuit();
+    /** What the next text is compiled into, so that one with a fault leaves the circuit as it is. */
     private Circuit spare = new Circuit();
     private boolean made = false;
+    private final Compiler compiler = new Compiler(tape, spare);
+    private final Work work = new Work(circuit);
 
     public HandshakeForge() {
     }
@@ -84,7 +85,6 @@ public final class HandshakeForge {
             circuit = spare;
             spare = former;
             made = true;
-            work.steps = 0;
             work.restart(circuit);
         }
         return answer;
@@ -239,7 +239,7 @@ public final class HandshakeForge {
         }
 
         void step() {
-            if (kind() != END && kind() != BAD) {
+            if (at >= 0 && at < TAPE_SIZE && kinds[at] != END && kinds[at] != BAD) {
                 at++;
             }
         }
@@ -463,7 +463,7 @@ public final class HandshakeForge {
         private static final int MOST_PENDING = 10 * (DEEPEST + 1);
 
         private final Tokens tokens;
-        private Circuit circuit = new Circuit();
+        private Circuit circuit;
         private int fault = 0;
         /** The place of the first par at fault, NONE if there is none. */
         private int parFault = NONE;
@@ -485,8 +485,9 @@ public final class HandshakeForge {
         private int lastOfRow = -1;
         private int sizeOfRow = 0;
 
-        Compiler(Tape tape) {
+        Compiler(Tape tape, Circuit circuit) {
             tokens = new Tokens(tape);
+            this.circuit = circuit;
         }
 
         void program(Circuit target) {
@@ -739,7 +740,14 @@ public final class HandshakeForge {
                 case '?':
                     check(kind == A_CHAN || kind == AN_IN, place);
                     tokens.step();
-                    return receive(line(name), depth);
+                    int targetPlace = tokens.place();
+                    int targetName = meaning();
+                    tokens.step();
+                    int receiver = target(targetName, targetPlace);
+                    int itsSubscript = tokens.kind() == '[' ? subscript(depth) : -1;
+                    expect(';');
+                    single |= 1L << LINES + line(name);
+                    return circuit.add(RECEIVE, line(name), receiver, itsSubscript);
                 default:
                     check(tokens.kind() == '(', tokens.place());
                     check(kind == A_PROC, place);
@@ -763,17 +771,6 @@ public final class HandshakeForge {
             used |= 1L << target;
             assigned |= 1L << target;
             return target;
-        }
-
-        private int receive(int line, int depth) {
-            int place = tokens.place();
-            int name = meaning();
-            tokens.step();
-            int target = target(name, place);
-            int subscript = tokens.kind() == '[' ? subscript(depth) : -1;
-            expect(';');
-            single |= 1L << LINES + line;
-            return circuit.add(RECEIVE, line, target, subscript);
         }
 
         private int condition(int depth) {
@@ -961,7 +958,7 @@ public final class HandshakeForge {
 
     /** A circuit at work. Parts that can go on lie on a stack; a part that waits for another lies nowhere. */
     private static final class Work {
-        private Circuit circuit = new Circuit();
+        private Circuit circuit;
         /** Who began a part, -1 for the whole. */
         private final int[] by = new int[MOST_PARTS];
         /** How often a part has been turned to since it was begun, -1 if its step is still to be taken. */
@@ -982,7 +979,8 @@ public final class HandshakeForge {
         private int state = READY;
         private int steps = 0;
 
-        Work() {
+        Work(Circuit circuit) {
+            this.circuit = circuit;
             for (int i = 0; i < MOST_INS; i++) {
                 ins[i] = new Queue();
             }
@@ -1060,7 +1058,7 @@ public final class HandshakeForge {
         }
 
         private void push(int part) {
-            if (circuit.has(part) && top < MOST_PARTS) {
+            if (part >= 0 && part < MOST_PARTS && top >= 0 && top < MOST_PARTS) {
                 ready[top] = part;
                 top++;
             }

@@ -5,6 +5,8 @@ final class Harness {
     private final String test;
     private int wrong = 0;
     private int checked = 0;
+    /** Calls of the object at hand, roughly: it is good for 512. */
+    private int calls = 0;
     HandshakeForge forge = new HandshakeForge();
 
     Harness(String test) {
@@ -12,11 +14,13 @@ final class Harness {
     }
 
     void fresh() {
+        calls = 0;
         forge = new HandshakeForge();
     }
 
     void due(String what, long got, long want) {
         checked++;
+        calls++;
         if (got != want) {
             wrong++;
             System.out.println(test + ": " + what + " answered " + got + ", due is " + want);
@@ -26,6 +30,7 @@ final class Harness {
     /** Puts a text on an empty tape. */
     void tape(String text) {
         for (int i = 0; i < text.length(); i += 20) {
+            calls++;
             forge.feed(four(text, i), four(text, i + 4), four(text, i + 8), four(text, i + 12), four(text, i + 16));
         }
         forge.end(text.length());
@@ -40,6 +45,9 @@ final class Harness {
     }
 
     int compiled(String text) {
+        if (calls > 300) {
+            fresh();
+        }
         tape(text);
         return forge.compile();
     }

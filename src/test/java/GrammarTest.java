@@ -1,0 +1,165 @@
+/** Promise 4: the grammar, and the place of the first token that can not stand there. */
+public final class GrammarTest {
+    public static void main(String[] args) {
+        Harness h = new Harness("GrammarTest");
+        declarations(h);
+        blocks(h);
+        statements(h);
+        expressions(h);
+        depths(h);
+        pars(h);
+        h.close();
+    }
+
+    private static void declarations(Harness h) {
+        h.good("var a:1; var b:16; int c; array d[1]; array e[64]; chan f; in g; out i; proc j(){} "
+                + "fun k(){return 1;} {}");
+        h.good("array a[2]; array b[4]; array c[8]; array d[16]; array e[32]; {}");
+        h.fault("var v:@0; {}");
+        h.fault("var v:@17; {}");
+        h.fault("var v@; {}");
+        h.fault("var v:@; {}");
+        h.fault("var v:4 @{}");
+        h.fault("var @:4; {}");
+        h.fault("int @; {}");
+        h.fault("int a@, b; {}");
+        for (int size : new int[] {0, 3, 5, 63, 65, 128, 65535}) {
+            h.fault("array a[@" + size + "]; {}");
+        }
+        h.fault("array a@; {}");
+        h.fault("array a[@]; {}");
+        h.fault("array a[2@; {}");
+        h.fault("array a[2] @{}");
+        h.fault("chan c@[2]; {}");
+        h.fault("in @int; {}");
+        h.fault("out o @out p; {}");
+        h.fault("proc p @{} {}");
+        h.fault("proc p(@,) {} {}");
+        h.fault("proc p(a,@) {} {}");
+        h.fault("proc p(a @b) {} {}");
+        h.fault("proc p(a)@; {}");
+        h.fault("proc p(@int a) {} {}");
+        h.fault("fun f() {@} {}");
+        h.fault("fun f() {return @;} {}");
+        h.fault("fun f() {return 1@} {}");
+        h.fault("fun f() {return 1;@skip;} {}");
+        h.fault("fun f() @return 1; {}");
+        h.fault("proc p() {@return 1;} {}");
+        h.fault("int a; @");
+        h.fault("int a; @skip;");
+        h.fault("{} @int a;");
+    }
+
+    private static void blocks(Harness h) {
+        h.good("{int a; int b; a = 1; {int a; int c; c = 2;} {int a;} b = a;}");
+        h.fault("{skip; @int a;}");
+        h.fault("{@var a:4;}");
+        h.fault("{@array a[4];}");
+        h.fault("{@chan c;}");
+        h.fault("{int a@}");
+        h.fault("{@;}");
+        h.fault("{{}@;}");
+        h.fault("{{}@");
+        h.fault("{skip;@)}");
+    }
+
+    private static void statements(Harness h) {
+        String head = "int v; array a[4]; chan c; in i; out o; proc p(x, y) {} ";
+        h.good(head + "{ skip; v = 1; a[v] = 2; c ! v; c ? v; c ? a[1]; i ? v; o ! 3; p(1, v); if (v) skip; "
+                + "if (v) skip; else {} while (v) skip; repeat 3 skip; par { skip; | skip; } }");
+        h.good(head + "{ if (v) if (v) skip; else skip; else skip; }");
+        h.fault(head + "{ skip @}");
+        h.fault(head + "{ v = @; }");
+        h.fault(head + "{ v @1; }");
+        h.fault(head + "{ v@; }");
+        h.fault(head + "{ v @+ 1; }");
+        h.fault(head + "{ a[1]@; }");
+        h.fault(head + "{ a[@] = 1; }");
+        h.fault(head + "{ a[1 @= 1; }");
+        h.fault(head + "{ a @1; }");
+        h.fault(head + "{ c ! @; }");
+        h.fault(head + "{ c @1; }");
+        h.fault(head + "{ c ? @1; }");
+        h.fault(head + "{ c ? v @+ 1; }");
+        h.fault(head + "{ c ? a[1] @= 2; }");
+        h.fault(head + "{ p@; }");
+        h.fault(head + "{ p(1,@); }");
+        h.fault(head + "{ p(1, 2@; }");
+        h.fault(head + "{ p(1, 2) @}");
+        h.fault(head + "{ if @v skip; }");
+        h.fault(head + "{ if (@) skip; }");
+        h.fault(head + "{ if (v) @}");
+        h.fault(head + "{ if (v) skip; else @}");
+        h.fault(head + "{ @else skip; }");
+        h.fault(head + "{ while (v @; skip; }");
+        h.fault(head + "{ while (v) @}");
+        h.fault(head + "{ repeat @v skip; }");
+        h.fault(head + "{ repeat @(3) skip; }");
+        h.fault(head + "{ repeat 3 @}");
+        h.fault(head + "{ @1 = v; }");
+        h.fault(head + "{ @(v) = 1; }");
+        h.fault(head + "{ @return 1; }");
+    }
+
+    private static void expressions(Harness h) {
+        String head = "int v; array a[4]; fun f(x) {return x;} ";
+        h.good(head + "{ v = (((1)) + -~!v) * f(a[f(v)]) % 3; }");
+        h.fault(head + "{ v = 1 @2; }");
+        h.fault(head + "{ v = 1 + @; }");
+        h.fault(head + "{ v = 1 + @* 2; }");
+        h.fault(head + "{ v = (1 @; }");
+        h.fault(head + "{ v = 1@); }");
+        h.fault(head + "{ v = (@); }");
+        h.fault(head + "{ v = a[1@; }");
+        h.fault(head + "{ v = f(1@; }");
+        h.fault(head + "{ v = f(1 @2); }");
+        h.fault(head + "{ v = 1 @? 2; }");
+        h.fault(head + "{ v = 1 @! 2; }");
+        h.fault(head + "{ v = 1 @~ 2; }");
+        h.fault(head + "{ v = @skip; }");
+        h.fault(head + "{ v = v @= 1; }");
+    }
+
+    private static void depths(Harness h) {
+        h.good("int v; " + "{".repeat(20) + "v = 1;" + "}".repeat(20));
+        h.fault("int v; " + "{".repeat(21) + "@v = 1;" + "}".repeat(21));
+        h.good("{".repeat(21) + "}".repeat(21));
+        h.fault("{".repeat(21) + "@{" + "}".repeat(22));
+        h.good("int v; { v = " + "(".repeat(19) + "1" + ")".repeat(19) + "; }");
+        h.fault("int v; { v = " + "(".repeat(19) + "@(1" + ")".repeat(20) + "; }");
+        h.good("int v; { v = " + "-".repeat(19) + "1; }");
+        h.fault("int v; { v = " + "-".repeat(19) + "@~1; }");
+        h.good("array a[4]; { a" + "[a".repeat(18) + "[1" + "]".repeat(19) + " = 1; }");
+        h.fault("array a[4]; { a" + "[a".repeat(19) + "@[1" + "]".repeat(20) + " = 1; }");
+        h.good("int v; fun f(x) {return x;} { v = " + "f(".repeat(19) + "1" + ")".repeat(19) + "; }");
+        h.fault("int v; fun f(x) {return x;} { v = " + "f(".repeat(19) + "f@(1" + ")".repeat(20) + "; }");
+        h.good("fun f() {return " + "(".repeat(20) + "1" + ")".repeat(20) + ";} {}");
+        h.fault("fun f() {return " + "(".repeat(20) + "@(1" + ")".repeat(21) + ";} {}");
+        h.good("proc p(x) {} " + "{".repeat(20) + "p(1);" + "}".repeat(20));
+        h.fault("proc p(x) {} " + "{".repeat(20) + "p(@(1));" + "}".repeat(20));
+        h.good("{ " + "if (1) ".repeat(19) + "skip; }");
+        h.fault("{ " + "if (1) ".repeat(20) + "@skip; }");
+        h.good("{ " + "while (0) repeat 2 ".repeat(9) + "if (1) skip; else skip; }");
+        h.fault("{ " + "while (0) repeat 2 ".repeat(10) + "@if (1) skip; }");
+        h.good("int v; { " + "if (1) skip; else ".repeat(18) + "v = -1; }");
+        h.fault("int v; { " + "if (1) skip; else ".repeat(19) + "v = @-1; }");
+        h.good("{ " + "par { skip; | ".repeat(19) + "skip; " + "}".repeat(19) + " }");
+        h.fault("{ " + "par { skip; | ".repeat(19) + "par { @skip; | skip; " + "}".repeat(20) + " }");
+        // What lies beside one another is not deep.
+        h.good("int v; { v = " + "(1) + ".repeat(100) + "-1; " + "{}".repeat(100) + "}");
+        h.good("int v; { v = 1 || 1 && 1 | 1 ^ 1 & 1 == 1 < 1 << 1 + 1 * 1; }");
+    }
+
+    private static void pars(Harness h) {
+        h.good("{ par { skip; | skip; } }");
+        h.good("{ par { {} | {} | {} | {} | {} | {} } }");
+        h.fault("{ par { {} | {} | {} | {} | {} | {} @| {} } }");
+        h.fault("{ par { skip; @} }");
+        h.fault("{ par { @} }");
+        h.fault("{ par { skip; | @} }");
+        h.fault("{ par @skip; | skip; }");
+        h.fault("{ par { @| skip; } }");
+        h.fault("{ par { skip; | skip; @skip; } }");
+        h.fault("{ par { skip; | skip; @");
+    }
+}
