@@ -145,6 +145,10 @@ public final class GrammarTest {
         h.fault("int v; { " + "if (1) skip; else ".repeat(19) + "v = @-1; }");
         h.good("{ " + "par { skip; | ".repeat(19) + "skip; " + "}".repeat(19) + " }");
         h.fault("{ " + "par { skip; | ".repeat(19) + "par { @skip; | skip; " + "}".repeat(20) + " }");
+        h.good("proc p() " + "{".repeat(20) + "skip;" + "}".repeat(20) + "{}");
+        h.fault("proc p() " + "{".repeat(21) + "@skip;" + "}".repeat(21) + "{}");
+        h.good("fun f() {" + "{".repeat(19) + "skip;" + "}".repeat(19) + " return 1;} {}");
+        h.fault("fun f() {" + "{".repeat(20) + "@skip;" + "}".repeat(20) + " return 1;} {}");
         // What lies beside one another is not deep.
         h.good("int v; { v = " + "(1) + ".repeat(100) + "-1; " + "{}".repeat(100) + "}");
         h.good("int v; { v = 1 || 1 && 1 | 1 ^ 1 & 1 == 1 < 1 << 1 + 1 * 1; }");

@@ -142,7 +142,8 @@ public final class NameTest {
         h.fault("proc p(a, b, c, d, @e) {} {}");
         h.fault("fun f(a, b, c, d, @e) {return 1;} {}");
         h.good(many("int v", ";", 24) + many("array a", "[64];", 6) + many("chan c", ";", 8) + many("in i", ";", 4)
-                + many("out o", ";", 4) + many("proc p", "(){}", 12) + "{}");
+                + many("out o", ";", 4) + many("proc p", "(){}", 12)
+                + "{ v23 = 1; a5[0] = v0; par { c7 ! 1; | c7 ? a0[1]; } i3 ? v1; o3 ! v2; p11(); p0(); }");
     }
 
     private static String many(String before, String behind, int n) {

@@ -8,6 +8,7 @@ public final class ParRuleTest {
         Harness h = new Harness("ParRuleTest");
         fine(h);
         variables(h);
+        kept(h);
         lines(h);
         calls(h);
         order(h);
@@ -50,6 +51,42 @@ public final class ParRuleTest {
         bad(h, "c ? a[0]; | c ! a[1];");
         bad(h, "while (v) skip; | repeat 3 { if (w) { v = 1; } }");
         h.fault("{ int x; @par { x = 1; | { int y; y = x; } } }");
+    }
+
+    /** What a branch did first is not forgotten for what it did last, nor the first branch for the last. */
+    private static void kept(Harness h) {
+        bad(h, "v = 1; | v = 2; | skip;");
+        bad(h, "v = 1; | skip; | v = 2;");
+        bad(h, "w = v; | skip; | v = 2;");
+        bad(h, "c ! 1; | skip; | c ! 2;");
+        bad(h, "{ v = 1; w = 2; } | v = 3;");
+        bad(h, "{ v = 1; a[0] = 2; } | { int x; x = v; }");
+        bad(h, "{ int x; x = v; x = w; x = a[0]; } | v = 1;");
+        bad(h, "{ int x; x = v; x = a[0]; x = b[1]; } | v = 1;");
+        bad(h, "{ int x; x = a[0]; x = b[1]; } | a[0] = 1;");
+        bad(h, "{ int x; x = v; x = f(1); } | v = 1;");
+        bad(h, "{ w = 1; p(1); } | { int x; x = w; }");
+        bad(h, "{ c ! 1; d ! 1; } | c ! 1;");
+        bad(h, "{ c ! 1; d ? v; } | c ! 1;");
+        bad(h, "{ c ? v; d ! 1; } | c ? w;");
+        bad(h, "{ c ? v; d ? v; } | c ? w;");
+        bad(h, "{ c ! 1; p(1); } | c ! 2;");
+        bad(h, "{ p(1); s(); } | { p(2); }");
+        bad(h, "par { v = 1; | skip; } | w = v;");
+        bad(h, "{ v = 1; par { skip; | skip; } } | w = v;");
+        bad(h, "par { w = v; | skip; } | v = 1;");
+        bad(h, "par { c ! 1; | skip; } | c ! 1;");
+        // Sends, receives and calls are told apart, and so are their numbers.
+        h.good("chan a; chan b; chan c; chan d; in i; out o; int v; int w; int x; int y; int z; { par { { a ! 1; b ? v; } "
+                + "| { b ! 2; c ? w; } | { c ! 3; d ? x; } | { d ! 4; a ? y; } | i ? z; | o ! 5; } }");
+        h.good("int u; int v; int w; int x; int y; int z; proc a() {} proc b() {} proc c() {} fun f() {return 1;} "
+                + "fun g() {return 1;} fun k() {return 1;} "
+                + "{ par { a(); | b(); | c(); | u = f(); | v = g(); | w = k(); } }");
+        h.good("chan a; chan b; chan c; chan d; chan e; chan f; chan g; chan k; in i; in j; in l; in m; out o; out p; "
+                + "out q; out r; int u; int v; int w; int x; "
+                + "{ par { { a ! 1; b ! 1; c ! 1; d ! 1; e ! 1; f ! 1; g ! 1; k ! 1; o ! 1; } "
+                + "| { a ? u; b ? u; c ? u; d ? u; e ? u; f ? u; g ? u; k ? u; i ? u; } "
+                + "| { j ? v; p ! 1; } | { l ? w; q ! 1; } | { m ? x; r ! 1; } } }");
     }
 
     private static void lines(Harness h) {

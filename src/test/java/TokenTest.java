@@ -17,6 +17,7 @@ public final class TokenTest {
         h.fault("int v;@\t{}");
         h.fault("int v;@\r{}");
         h.fault("@\0");
+        h.fault("{}@\0");
         h.fault("@");
         h.fault("  \n @");
         h.fault("{ @");
