@@ -506,14 +506,14 @@ public final class HandshakeForge {
                     int bottom = circuit.names.size - circuit.parameters(routine);
                     routineFoot(routine, word == FUN ? funBody(bottom) : block(0, bottom));
                 } else {
-                    thing(word);
+                    shortDeclaration(word);
                 }
             }
             circuit.main = block(0, circuit.names.size);
             check(tokens.kind() == END, tokens.place());
         }
 
-        private void thing(int word) {
+        private void shortDeclaration(int word) {
             switch (word) {
                 case VAR:
                     int variable = declare(A_VARIABLE, 0);
