@@ -719,7 +719,8 @@ public final class HandshakeForge {
             int place = tokens.place();
             int name = meaning();
             int kind = circuit.names.kind(name);
-            check(kind != A_FUN && name >= ownFrom, place);
+            boolean itself = kind == A_PROC && circuit.names.number(name) == self;
+            check(kind != A_FUN && !itself && name >= ownFrom, place);
             tokens.step();
             switch (tokens.kind()) {
                 case '=':
@@ -791,7 +792,7 @@ public final class HandshakeForge {
 
         /** A call whose ( is at hand, its E at a depth. */
         private int call(int routine, int place, int depth) {
-            check(routine != self && routine >= 0 && routine < MOST_ROUTINES, place);
+            check(routine >= 0 && routine < MOST_ROUTINES, place);
             tokens.step();
             int first = -1;
             int last = -1;

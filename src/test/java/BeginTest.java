@@ -2,6 +2,7 @@
 public final class BeginTest {
     public static void main(String[] args) {
         Harness h = new Harness("BeginTest");
+        noCircuit(h);
         anew(h);
         fromEachState(h);
         compileAnew(h);
@@ -13,8 +14,24 @@ public final class BeginTest {
             + "proc p(x) { int n; n = n + x; v = n; } "
             + "{ int x; i ? x; p(x); a[2] = x; o ! x; par { c ! 1; | { int y; i ? y; c ? y; } } }";
 
-    private static void anew(Harness h) {
+    /** NONE without one, whatever was called before. */
+    private static void noCircuit(Harness h) {
         h.due("begin without a circuit", h.forge.begin(), HandshakeForge.NONE);
+        h.due("begin without a circuit again", h.forge.begin(), HandshakeForge.NONE);
+        h.fault("{ @");
+        h.due("begin behind a fault", h.forge.begin(), HandshakeForge.NONE);
+        h.fault("int v; { @par { v = 1; | v = 2; } }");
+        h.due("begin behind a fault of a par", h.forge.begin(), HandshakeForge.NONE);
+        h.tape("{}");
+        h.due("begin before a text is compiled", h.forge.begin(), HandshakeForge.NONE);
+        h.due("compile", h.forge.compile(), HandshakeForge.NONE);
+        h.due("begin", h.forge.begin(), 0);
+        h.due("begin again", h.forge.begin(), 0);
+        h.fault("{ @");
+        h.due("begin of the circuit that stays", h.forge.begin(), 0);
+    }
+
+    private static void anew(Harness h) {
         h.good(TEXT);
         h.forge.give(0, 7);
         h.due("run", h.forge.run(20000), 2);
@@ -77,26 +94,43 @@ public final class BeginTest {
         h.holds("v", 2);
     }
 
+    /** Of a text with a fault all stays, in every state. */
     private static void faultKeeps(Harness h) {
         h.fresh();
-        h.good("in i; out o; int v; { i ? v; o ! v; i ? v; }");
+        h.good("in i; out o; int v; { o ! 9; i ? v; o ! v; i ? v; while (v == 7) skip; }");
+        staysAll(h, 0, 0, 0);
         h.forge.give(0, 4);
         h.due("run", h.forge.run(20000), 2);
+        staysAll(h, 2, 4, 2);
+        h.forge.give(0, 5);
+        staysAll(h, 2, 4, 2);
+        h.due("run goes on", h.forge.run(20000), 1);
+        staysAll(h, 1, 5, 2);
+        h.due("take", h.forge.take(0), 9);
+        h.due("take", h.forge.take(0), 4);
+        h.forge.begin();
+        h.forge.give(0, 4);
+        h.forge.give(0, 7);
+        staysAll(h, 0, 0, 0);
+        h.due("run", h.forge.run(20000), 3);
+        staysAll(h, 3, Harness.NO_VALUE, 0);
+    }
+
+    private static void staysAll(Harness h, int state, long v, int held) {
         int[] before = new int[13];
         for (int what = 0; what <= 12; what++) {
             before[what] = h.forge.count(what);
         }
-        h.fault("int w; chan c; array q[4]; proc p(x) { x = 1; } { w = @nosuch; }");
+        h.fault("int w; chan c; array q[4]; in x; in y; out z; proc p(x) { x = 1; } { w = @nosuch; }");
         h.fault("int w; { @par { w = 1; | w = 2; } }");
         h.fault("@");
         for (int what = 0; what <= 12; what++) {
             h.counts(what, before[what]);
         }
-        h.holds("v", 4);
+        h.counts(8, state);
+        h.counts(9, held);
+        h.holds("v", v);
         h.holds("w", Harness.NO_VALUE);
-        h.forge.give(0, 5);
-        h.due("run goes on", h.forge.run(20000), 1);
-        h.holds("v", 5);
-        h.due("take", h.forge.take(0), 4);
+        h.due("give to no in", h.forge.give(1, 1), HandshakeForge.NONE);
     }
 }

@@ -7,20 +7,35 @@ public final class CountTest {
         steps(h);
         states(h);
         outs(h);
+        lost(h);
         h.close();
     }
 
+    /** REFUSED for others than 0 to 12; 0 without a circuit. */
     private static void others(Harness h) {
-        for (int what : new int[] {-1, 13, 14, Integer.MIN_VALUE, Integer.MAX_VALUE}) {
+        refused(h);
+        zeros(h);
+        h.fault("@");
+        refused(h);
+        zeros(h);
+        h.good("{}");
+        refused(h);
+        h.due("run", h.forge.run(1), 1);
+        refused(h);
+        h.good("{ while (1) skip; }");
+        h.due("run", h.forge.run(1), 3);
+        refused(h);
+    }
+
+    private static void refused(Harness h) {
+        for (int what : new int[] {-1, 13, -2, 14, Integer.MIN_VALUE, Integer.MAX_VALUE}) {
             h.counts(what, HandshakeForge.REFUSED);
         }
-        h.fault("@");
+    }
+
+    private static void zeros(Harness h) {
         for (int what = 0; what <= 12; what++) {
             h.counts(what, 0);
-        }
-        h.good("{}");
-        for (int what : new int[] {-1, 13, Integer.MIN_VALUE, Integer.MAX_VALUE}) {
-            h.counts(what, HandshakeForge.REFUSED);
         }
     }
 
@@ -83,25 +98,40 @@ public final class CountTest {
         h.counts(4, 1);
     }
 
+    /** Values that outs 0 to 3 hold, 0 for those that there are not. */
     private static void outs(Harness h) {
+        for (int n = 0; n <= 4; n++) {
+            StringBuilder declarations = new StringBuilder();
+            StringBuilder sends = new StringBuilder();
+            for (int i = 0; i < n; i++) {
+                declarations.append("out o").append(i).append("; ");
+                sends.append("repeat ").append(10 * i + 10).append(" o").append(i).append(" ! 1; ");
+            }
+            h.ended(declarations + "{ " + sends + "}");
+            for (int i = 0; i < 4; i++) {
+                h.counts(9 + i, i < n ? 10 * i + 10 : 0);
+                h.forge.take(i);
+                h.counts(9 + i, i < n ? 10 * i + 9 : 0);
+            }
+        }
+    }
+
+    /** 0 if LOST. */
+    private static void lost(Harness h) {
         h.good("out a; out b; out c; out d; in i; { a ! 1; c ! 1; c ! 2; d ! 1; d ! 2; d ! 3; { int x; i ? x; while (1) skip; } }");
         h.forge.run(100);
+        h.counts(7, 15);
         h.counts(9, 1);
         h.counts(10, 0);
         h.counts(11, 2);
         h.counts(12, 3);
-        h.forge.take(3);
-        h.counts(12, 2);
         h.forge.give(0, 1);
         h.forge.run(100);
+        h.counts(7, 0);
+        h.counts(8, 3);
         for (int what = 9; what <= 12; what++) {
             h.counts(what, 0);
         }
-        h.good("out a; { a ! 1; }");
-        h.forge.run(100);
-        h.counts(9, 1);
-        for (int what = 10; what <= 12; what++) {
-            h.counts(what, 0);
-        }
+        h.counts(5, 4);
     }
 }

@@ -1,4 +1,4 @@
-/** Promise 4: what names mean, how often they are declared, and how many there may be. */
+/** Promise 4: what names mean, and how often they are declared. */
 public final class NameTest {
     public static void main(String[] args) {
         Harness h = new Harness("NameTest");
@@ -7,7 +7,6 @@ public final class NameTest {
         kinds(h);
         calls(h);
         funs(h);
-        limits(h);
         h.close();
     }
 
@@ -118,39 +117,5 @@ public final class NameTest {
         h.good(head + "fun f(v, w) { v = 1; w = v; return w; } { v = f(1, 2); p(); c ! 1; }");
         // The rule ends with the fun.
         h.good(head + "fun f(x) {return x;} proc q() { v = f(1); o ! 1; p(); } { q(); }");
-    }
-
-    private static void limits(Harness h) {
-        h.good(many("int v", ";", 24) + "{}");
-        h.fault(many("int v", ";", 24) + "int @w; {}");
-        h.fault(many("int v", ";", 24) + "var @w:4; {}");
-        h.fault(many("int v", ";", 24) + "{ int @w; }");
-        h.fault(many("int v", ";", 24) + "proc p(@x) {} {}");
-        h.fault(many("int v", ";", 20) + "proc p(a, b) { { int c; } } {int d; { int @e; }}");
-        h.good(many("int v", ";", 20) + "proc p(a, b) { { int c; } } {int d; {}}");
-        h.good(many("array v", "[2];", 6) + "{}");
-        h.fault(many("array v", "[2];", 6) + "array @w[2]; {}");
-        h.good(many("chan v", ";", 8) + "{}");
-        h.fault(many("chan v", ";", 8) + "chan @w; {}");
-        h.good(many("in v", ";", 4) + many("out w", ";", 4) + "{}");
-        h.fault(many("in v", ";", 4) + "in @w; {}");
-        h.fault(many("out v", ";", 4) + "out @w; {}");
-        h.good(many("proc v", "(){}", 6) + many("fun w", "(){return 1;}", 6) + "{}");
-        h.fault(many("proc v", "(){}", 6) + many("fun w", "(){return 1;}", 6) + "proc @x(){} {}");
-        h.fault(many("proc v", "(){}", 6) + many("fun w", "(){return 1;}", 6) + "fun @x(){return 1;} {}");
-        h.good("proc p(a, b, c, d) {} fun f(a, b, c, d) {return 1;} {}");
-        h.fault("proc p(a, b, c, d, @e) {} {}");
-        h.fault("fun f(a, b, c, d, @e) {return 1;} {}");
-        h.good(many("int v", ";", 24) + many("array a", "[64];", 6) + many("chan c", ";", 8) + many("in i", ";", 4)
-                + many("out o", ";", 4) + many("proc p", "(){}", 12)
-                + "{ v23 = 1; a5[0] = v0; par { c7 ! 1; | c7 ? a0[1]; } i3 ? v1; o3 ! v2; p11(); p0(); }");
-    }
-
-    private static String many(String before, String behind, int n) {
-        StringBuilder text = new StringBuilder();
-        for (int i = 0; i < n; i++) {
-            text.append(before).append(i).append(behind).append(' ');
-        }
-        return text.toString();
     }
 }
