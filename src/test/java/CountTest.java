@@ -101,17 +101,11 @@ public final class CountTest {
     /** Values that outs 0 to 3 hold, 0 for those that there are not. */
     private static void outs(Harness h) {
         for (int n = 0; n <= 4; n++) {
-            StringBuilder declarations = new StringBuilder();
-            StringBuilder sends = new StringBuilder();
-            for (int i = 0; i < n; i++) {
-                declarations.append("out o").append(i).append("; ");
-                sends.append("repeat ").append(10 * i + 10).append(" o").append(i).append(" ! 1; ");
-            }
-            h.ended(declarations + "{ " + sends + "}");
+            h.ended(Harness.many("out o#;", n) + "{ " + Harness.many("repeat #9 o# ! 1;", n) + "}");
             for (int i = 0; i < 4; i++) {
-                h.counts(9 + i, i < n ? 10 * i + 10 : 0);
-                h.forge.take(i);
                 h.counts(9 + i, i < n ? 10 * i + 9 : 0);
+                h.forge.take(i);
+                h.counts(9 + i, i < n ? 10 * i + 8 : 0);
             }
         }
     }

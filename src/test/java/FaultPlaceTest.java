@@ -13,6 +13,7 @@ public final class FaultPlaceTest {
         canNotStand(h);
         numberOfE(h);
         parsLast(h);
+        nothingLeftOver(h);
         h.close();
     }
 
@@ -159,7 +160,27 @@ public final class FaultPlaceTest {
         h.fault(HEAD + "proc q() { @" + bad + "} { " + bad + "}");
         h.fault(HEAD + "{ @par { par { v = 1; | v = 2; } | v = 3; } }");
         h.fault(HEAD + "{ par { @par { v = 1; | v = 2; } | skip; } }");
-        h.fault(HEAD + "{ par { skip; | @par { v = 1; | v = 2; } } }");
-        h.fault(HEAD + "{ par { @" + bad + " | " + bad.replace('v', 'w').replace("w =", "a[0] =") + "} }");
+        h.fault(HEAD + "{ par { skip; | @par { v = 1; | v = 2; } } " + bad + "}");
+        h.fault(HEAD + "{ par { @" + bad + "| par { a[0] = 1; | a[1] = 2; } } }");
+    }
+
+    /** A text with a fault, however deep in it, changes nothing for the next one. */
+    private static void nothingLeftOver(Harness h) {
+        String good = "int v; { v = 1; par { v = 2; | skip; } }";
+        for (String bad : new String[] {"int a; int b; fun f(x) { x = @; return 1; } {}", "proc p(v) { v = @; } {}",
+            "int v; { par { v = 1; | v = @; } }", "int v; { @par { v = 1; | v = 2; } }", "{ { int v; @", "int v; { v = @f"}) {
+            h.fresh();
+            h.fault(bad);
+            h.ended(good);
+            h.holds("v", 2);
+        }
+        // Each of these has ten signs that wait for their right E.
+        h.fresh();
+        for (int i = 0; i < 60; i++) {
+            h.tape("int v;{v=1||1&&1|1^1&1==1<1<<1+1*;}");
+            h.due("compile", h.forge.compile(), 33);
+        }
+        h.tape("int v;{v=1||1&&1|1^1&1==1<1<<1+1*2;}");
+        h.due("compile", h.forge.compile(), HandshakeForge.NONE);
     }
 }

@@ -82,6 +82,15 @@ final class Harness {
         due("run of '" + text + "'", forge.run(20000), 1);
     }
 
+    /** A pattern so many times, its # replaced by 0, 1, 2 and so on. */
+    static String many(String pattern, int n) {
+        StringBuilder text = new StringBuilder();
+        for (int i = 0; i < n; i++) {
+            text.append(pattern.replace("#", "" + i)).append(' ');
+        }
+        return text.toString();
+    }
+
     void counts(int what, long want) {
         due("count " + what, forge.count(what), want);
     }

@@ -13,15 +13,8 @@ public final class LimitsTest {
         deepBrackets(h);
         deepInRoutines(h);
         notDeep(h);
+        everyLevelInEveryBracket(h);
         h.close();
-    }
-
-    private static String many(String before, String behind, int n) {
-        StringBuilder text = new StringBuilder();
-        for (int i = 0; i < n; i++) {
-            text.append(before).append(i).append(behind).append(' ');
-        }
-        return text.toString();
     }
 
     /** var NAME ":" NUMBER ";" (1 to 16). */
@@ -67,25 +60,25 @@ public final class LimitsTest {
     }
 
     /** One less than the most is fine, the most is, of one more its NAME is the fault. */
-    private static void most(Harness h, int what, int most, String before, String behind, String oneMore) {
+    private static void most(Harness h, int what, int most, String pattern, String oneMore) {
         for (int n = most - 1; n <= most; n++) {
-            h.good(many(before, behind, n) + "{}");
+            h.good(Harness.many(pattern, n) + "{}");
             h.counts(what, n);
         }
-        h.fault(many(before, behind, most) + oneMore + " {}");
+        h.fault(Harness.many(pattern, most) + oneMore + " {}");
     }
 
     /** At most 24 variables, 6 arrays, 8 chans, 4 ins, 4 outs, 12 procs and funs. */
     private static void declared(Harness h) {
-        most(h, 1, 24, "int v", ";", "int @w;");
-        most(h, 1, 24, "var v", ":3;", "var @w:3;");
-        most(h, 2, 6, "array v", "[2];", "array @w[2];");
-        most(h, 3, 8, "chan v", ";", "chan @w;");
-        most(h, 4, 4, "in v", ";", "in @w;");
-        most(h, 5, 4, "out v", ";", "out @w;");
-        most(h, 6, 12, "proc v", "(){}", "proc @w(){}");
-        most(h, 6, 12, "fun v", "(){return 1;}", "fun @w(){return 1;}");
-        String six = many("proc v", "(){}", 6) + many("fun w", "(){return 1;}", 5);
+        most(h, 1, 24, "int v#;", "int @w;");
+        most(h, 1, 24, "var v#:3;", "var @w:3;");
+        most(h, 2, 6, "array v#[2];", "array @w[2];");
+        most(h, 3, 8, "chan v#;", "chan @w;");
+        most(h, 4, 4, "in v#;", "in @w;");
+        most(h, 5, 4, "out v#;", "out @w;");
+        most(h, 6, 12, "proc v#(){}", "proc @w(){}");
+        most(h, 6, 12, "fun v#(){return 1;}", "fun @w(){return 1;}");
+        String six = Harness.many("proc v#(){}", 6) + Harness.many("fun w#(){return 1;}", 5);
         h.good(six + "{}");
         h.counts(6, 11);
         h.good(six + "fun x(){return 1;} {}");
@@ -97,8 +90,8 @@ public final class LimitsTest {
 
     /** The most of every kind at once, the first and the last of each at work. */
     private static void all(Harness h) {
-        h.ended(many("int v", ";", 24) + many("array a", "[64];", 6) + many("chan c", ";", 8) + many("in i", ";", 4)
-                + many("out o", ";", 4) + many("proc p", "(){}", 12)
+        h.ended(Harness.many("int v#;", 24) + Harness.many("array a#[64];", 6) + Harness.many("chan c#;", 8) + Harness.many("in i#;", 4)
+                + Harness.many("out o#;", 4) + Harness.many("proc p#(){}", 12)
                 + "{ v23 = 1; a5[63] = v23 + 1; par { c7 ! a5[63] + 1; | c7 ? a0[1]; } par { c0 ? v1; | c0 ! 4; } "
                 + "o3 ! 5; o0 ! 6; p11(); p0(); }");
         for (int what = 1; what <= 6; what++) {
@@ -111,15 +104,15 @@ public final class LimitsTest {
         h.due("take", h.forge.take(3), 5);
         h.due("take", h.forge.take(0), 6);
         // Of one kind the most does not take from another's.
-        h.good(many("array v", "[1];", 6) + many("chan w", ";", 8) + "int x; {}");
+        h.good(Harness.many("array v#[1];", 6) + Harness.many("chan w#;", 8) + "int x; {}");
         // Nor does a text with too many leave anything for the next.
-        h.fault(many("in i", ";", 4) + many("array a", "[2];", 6) + "array @w[2]; {}");
-        h.good(many("array a", "[2];", 6) + many("in i", ";", 4) + "{}");
+        h.fault(Harness.many("in i#;", 4) + Harness.many("array a#[2];", 6) + "array @w[2]; {}");
+        h.good(Harness.many("array a#[2];", 6) + Harness.many("in i#;", 4) + "{}");
     }
 
     /** Variables: vars, ints, parameters; all in the text. */
     private static void variablesInTheText(Harness h) {
-        String most = many("int v", ";", 24);
+        String most = Harness.many("int v#;", 24);
         h.fault(most + "proc p(@x) {} {}");
         h.fault(most + "fun f(@x) {return 1;} {}");
         h.fault(most + "proc p() { int @x; } {}");
@@ -127,7 +120,7 @@ public final class LimitsTest {
         h.fault(most + "fun f() { int @x; return 1; } {}");
         h.fault(most + "{ int @x; }");
         h.fault(most + "{ { int @x; } }");
-        String oneLess = many("int v", ";", 23);
+        String oneLess = Harness.many("int v#;", 23);
         h.good(oneLess + "proc p(x) {} {}");
         h.fault(oneLess + "proc p(x, @y) {} {}");
         h.good(oneLess + "fun f(x) {return x;} {}");
@@ -139,9 +132,9 @@ public final class LimitsTest {
         h.good("{" + "{int x;}".repeat(24) + "}");
         h.counts(1, 24);
         h.fault("{" + "{int x;}".repeat(24) + "{int @x;}}");
-        h.good(many("proc p", "(a, b, c, d) {}", 6) + "{}");
+        h.good(Harness.many("proc p#(a, b, c, d) {}", 6) + "{}");
         h.counts(1, 24);
-        h.fault(many("proc p", "(a, b, c, d) {}", 6) + "proc q(@a) {} {}");
+        h.fault(Harness.many("proc p#(a, b, c, d) {}", 6) + "proc q(@a) {} {}");
     }
 
     /** NAMES: at most 4 PARAMETERS, and a call has as many E. */
@@ -253,5 +246,18 @@ public final class LimitsTest {
         h.ended("int v; { v = " + "(".repeat(19) + "1" + "+1)".repeat(19) + "; " + "{".repeat(19) + "v = v + 1;"
                 + "}".repeat(19) + " }");
         h.holds("v", 21);
+    }
+
+    /** As many signs as can wait for their right E at once: one of each level in each bracket. */
+    private static void everyLevelInEveryBracket(Harness h) {
+        String signs = "0 || 1 && 0 | 0 ^ 1 & 0 != 2 < 1 << 1 + 1 * ";
+        String opened = "int v; fun f() {return " + (signs + "(").repeat(20) + signs;
+        String shut = ")".repeat(20) + ";} { v = f(); }";
+        h.ended(opened + "0" + shut);
+        h.holds("v", 0);
+        h.ended(opened + "5" + shut);
+        h.holds("v", 1);
+        h.counts(0, 21 * 20 + 1 + 2);
+        h.fault(opened + "@(5)" + shut);
     }
 }

@@ -91,10 +91,6 @@ public final class NameTest {
         h.fault(head + "{ v = @g(1); }");
         h.fault(head + "{ v = g(1, @f(1)); }");
         h.fault(head + "{ v = @g(f()); }");
-        // The number of E is told when the ) comes, so what is wrong before that is told first.
-        h.fault(head + "{ q(1, 2, 3 @; }");
-        h.fault(head + "{ q(1, 2, @nosuch); }");
-        h.fault(head + "{ @q(1) }");
         h.fault("proc p() { @p(); } {}");
         h.fault("proc p() { { skip; @p(); } } {}");
         h.fault("fun f(x) { return @f(1); } {}");

@@ -11,7 +11,8 @@ public final class ParRuleTest {
         kept(h);
         lines(h);
         calls(h);
-        order(h);
+        beside(h);
+        eachOfTheMost(h);
         h.close();
     }
 
@@ -120,18 +121,41 @@ public final class ParRuleTest {
         h.good("int v; int w; proc p(x) { par { v = x; | w = x; } } { p(1); }");
     }
 
-    /** The first word par of those at fault counts, and only if nothing else is. */
-    private static void order(Harness h) {
-        h.fault("int v; { par { skip; | skip; } @par { v = 1; | v = 2; } par { v = 1; | v = 2; } }");
-        h.fault("int v; { @par { par { v = 1; | v = 2; } | v = 3; } }");
-        h.fault("int v; { par { @par { v = 1; | v = 2; } | skip; } }");
-        h.fault("int v; { par { skip; | @par { v = 1; | v = 2; } } par { v = 1; | v = 2; } }");
-        h.fault("int v; { par { v = 1; | v = 2; } v = @nosuch; }");
-        h.fault("int v; { par { v = 1; | v = 2; } @");
-        h.fault("int v; proc p() { @par { v = 1; | v = 2; } } { par { v = 1; | v = 2; } }");
+    /** With as many of each kind as there can be, each is told from all others. */
+    private static void eachOfTheMost(Harness h) {
+        String head = Harness.many("int v#;", 24) + Harness.many("array a#[2];", 6) + Harness.many("chan c#;", 8) + Harness.many("in i#;", 4)
+                + Harness.many("out o#;", 4) + Harness.many("proc p#(){}", 12);
+        h.good(head + "{ par { { " + Harness.many("v# = 1;", 23) + "} | { " + Harness.many("v23 = a#[0];", 6) + "} | { "
+                + Harness.many("p#();", 12) + "} | {" + Harness.many("c# ! 1;", 8) + Harness.many("o# ! 1;", 4) + "} } }");
+        h.good(head + "{ par { { " + Harness.many("a#[0] = 1;", 6) + "} | { " + Harness.many("v0 = v#;", 24) + "} | { "
+                + Harness.many("p#();", 12) + "} | {" + Harness.many("c# ! 1;", 8) + Harness.many("o# ! 1;", 4) + "} } }");
+        h.good(head + "{ par { { " + Harness.many("c# ? v23;", 8) + Harness.many("i# ? v0;", 4) + "} | { "
+                + Harness.many("p#();", 12) + "} | {" + Harness.many("c# ! 1;", 8) + Harness.many("o# ! 1;", 4) + "} } }");
+        eachClashes(h, head, 24, "v# = 1;", "v# = 2;");
+        eachClashes(h, head, 23, "v# = 1;", "v23 = v#;");
+        eachClashes(h, head, 6, "a#[0] = 1;", "a#[1] = 1;");
+        eachClashes(h, head, 6, "a#[0] = 1;", "v0 = a#[1];");
+        eachClashes(h, head, 8, "c# ! 1;", "c# ! 1;");
+        eachClashes(h, head, 8, "c# ? v0;", "c# ? v1;");
+        eachClashes(h, head, 4, "i# ? v0;", "i# ? v1;");
+        eachClashes(h, head, 4, "o# ! 1;", "o# ! 1;");
+        eachClashes(h, head, 12, "p#();", "p#();");
+    }
+
+    private static void eachClashes(Harness h, String head, int n, String one, String other) {
+        for (int i = 0; i < n; i++) {
+            String first = one.replace("#", "" + i);
+            String second = other.replace("#", "" + i);
+            h.fault(head + "{ @par { " + first + " | " + second + " } }");
+            h.fault(head + "{ @par { " + second + " | " + first + " } }");
+        }
+    }
+
+    /** Pars one after another, and what stands before and behind them, are no branches of one another. */
+    private static void beside(Harness h) {
         h.good("int v; { par { v = 1; | skip; } par { skip; | v = 2; } }");
         h.good("int v; { v = 1; par { v = v + 1; | skip; } v = v + 1; }");
-        // Nothing of a text at fault is left over for the next one.
-        h.good("int v; { par { v = 1; | skip; } }");
+        h.good("chan c; int v; proc p() {} { par { c ! 1; | c ? v; } par { c ? v; | c ! 2; } par { p(); | skip; } p(); }");
+        h.good("int v; int w; { par { par { v = 1; | skip; } | w = 1; } par { w = v; | skip; } }");
     }
 }

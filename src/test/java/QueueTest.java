@@ -18,18 +18,10 @@ public final class QueueTest {
         h.close();
     }
 
-    private static String declarations(String word, int n) {
-        StringBuilder text = new StringBuilder();
-        for (int i = 0; i < n; i++) {
-            text.append(word).append(' ').append(word.charAt(0)).append(i).append("; ");
-        }
-        return text.toString();
-    }
-
     /** NONE if there is no such in, 2^40 if there is no such out. */
     private static void noSuch(Harness h) {
         for (int n = 0; n <= 4; n++) {
-            h.good(declarations("in", n) + declarations("out", 4 - n) + "{}");
+            h.good(Harness.many("in i#;", n) + Harness.many("out o#;", 4 - n) + "{}");
             for (int k : new int[] {Integer.MIN_VALUE, -1, 0, 1, 2, 3, 4, 5, 8, 12, Integer.MAX_VALUE}) {
                 h.due("give to " + k + " of " + n, h.forge.give(k, 1), k >= 0 && k < n ? 1 : NONE);
                 h.due("take from " + k + " of " + (4 - n), h.forge.take(k), Harness.NO_VALUE);

@@ -13,6 +13,7 @@ public final class RunTest {
         stays(h);
         lost(h);
         lostTillAnew(h);
+        lostInBranches(h);
         h.close();
     }
 
@@ -137,6 +138,7 @@ public final class RunTest {
             h.counts(9, 1);
             h.holds("v", 1);
         }
+        h.due("give to an in that nobody reads", h.forge.give(0, 1), 4);
         h.due("take when ended", h.forge.take(0), 2);
         h.due("run when ended", h.forge.run(1), 1);
         h.counts(9, 0);
@@ -200,5 +202,29 @@ public final class RunTest {
         h.due("give", h.forge.give(0, 0), 1);
         h.due("run", h.forge.run(20000), 1);
         h.forge.begin();
+    }
+
+    /** Nothing that was still to be done is left over, whatever step was the last. */
+    private static void lostInBranches(Harness h) {
+        String text = "int v; int w; chan c; { par { repeat 3 v = v + 1; | { c ! 5; w = w + 1; } | { int x; c ? x; skip; } } }";
+        h.good(text);
+        h.due("run", h.forge.run(20000), 1);
+        int steps = h.forge.count(7);
+        for (int n = 1; n < steps; n++) {
+            h.fresh();
+            h.good(text);
+            h.due("run of " + n + " steps", h.forge.run(n), 3);
+            h.due("begin", h.forge.begin(), 0);
+            h.due("run", h.forge.run(steps), 1);
+            h.counts(7, steps);
+            h.holds("v", 3);
+            h.holds("w", 1);
+            h.forge.begin();
+            h.due("run of " + n + " steps", h.forge.run(n), 3);
+            h.good("int v; { v = 7; }");
+            h.due("run", h.forge.run(2), 1);
+            h.counts(7, 2);
+            h.holds("v", 7);
+        }
     }
 }

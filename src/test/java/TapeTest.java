@@ -80,10 +80,10 @@ public final class TapeTest {
         h.due("run", h.forge.run(9), 1);
         h.holds("v", 42);
         for (int place = 0; place < 20; place++) {
-            int[] fives = new int[5];
-            java.util.Arrays.fill(fives, 0x20202020);
-            fives[place / 4] ^= (32 ^ '}') << 24 - place % 4 * 8;
-            h.forge.feed(fives[0], fives[1], fives[2], fives[3], fives[4]);
+            int[] numbers = new int[5];
+            java.util.Arrays.fill(numbers, 0x20202020);
+            numbers[place / 4] ^= (32 ^ '}') << 24 - place % 4 * 8;
+            h.forge.feed(numbers[0], numbers[1], numbers[2], numbers[3], numbers[4]);
             h.due("the place of a }", h.forge.compile(), place);
         }
     }
@@ -108,6 +108,12 @@ public final class TapeTest {
         h.fault(text + " ".repeat(1981) + "@;");
         h.fault("{" + " ".repeat(1999) + "@");
         h.fault("{" + " ".repeat(1998) + "@");
+        // As many tokens as bytes.
+        h.ended("{" + "{}".repeat(999) + "}");
+        h.counts(0, 1000);
+        h.fault("{" + "{}".repeat(999) + "{@");
+        h.fault("{" + "{}".repeat(999) + "@");
+        h.fault("{" + "{}".repeat(998) + "}@}");
     }
 
     private static void emptied(Harness h, String call) {

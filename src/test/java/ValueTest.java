@@ -13,6 +13,7 @@ public final class ValueTest {
         comparisons(h);
         bitwise(h);
         levels(h);
+        everyPairOfSigns(h);
         varsKeep(h);
         intsKeep(h);
         subscripts(h);
@@ -176,6 +177,31 @@ public final class ValueTest {
         value(h, "~1 & 7", 6);
         value(h, "1 == 1 == 1", 1);
         value(h, "2 == 2 != 2", 1);
+    }
+
+    /** By levels, the later the tighter, each from the left: of any two in a row the right one goes first. */
+    private static void everyPairOfSigns(Harness h) {
+        String[] byLevels = {"||", "&&", "|", "^", "&", "== !=", "< <= > >=", "<< >>", "+ -", "* / %"};
+        for (int i = 0; i < byLevels.length; i++) {
+            for (int j = 0; j < byLevels.length; j++) {
+                for (String first : byLevels[i].split(" ")) {
+                    for (String second : byLevels[j].split(" ")) {
+                        pairOfSigns(h, first, second, j > i);
+                    }
+                }
+            }
+        }
+    }
+
+    /** Compared with the same E in brackets, for so many values that for nearly all pairs the brackets matter. */
+    private static void pairOfSigns(Harness h, String first, String second, boolean secondFirst) {
+        String plain = "x " + first + " y " + second + " z";
+        String left = "(x " + first + " y) " + second + " z";
+        String right = "x " + first + " (y " + second + " z)";
+        h.ended("int others; int x; int y; int z; { while (x < 6) { y = 0; while (y < 6) { z = 0; while (z < 6) { "
+                + "others = others + ((" + plain + ") != (" + (secondFirst ? right : left) + ")); "
+                + "z = z + 1; } y = y + 1; } x = x + 1; } }");
+        h.holds("others", 0);
     }
 
     /** What is kept of a value however it is assigned. */

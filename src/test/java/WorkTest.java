@@ -6,6 +6,7 @@ public final class WorkTest {
         calls(h);
         channels(h);
         waits(h);
+        waitsNoLonger(h);
         h.close();
     }
 
@@ -55,6 +56,11 @@ public final class WorkTest {
         h.ended("int v; chan c; proc s(x) { c ! x; c ! x + 1; } proc r() { int y; c ? y; c ? v; v = v * 10 + y; } "
                 + "{ par { s(1); | r(); } par { r(); | s(3); } }");
         h.holds("v", 43);
+        // Whoever comes first waits for the other.
+        h.ended("chan c; int v; proc r() { c ? v; } { par { c ! 1; | r(); } }");
+        h.holds("v", 1);
+        h.ended("chan c; int v; proc r() { c ? v; } { par { r(); | c ! 2; } }");
+        h.holds("v", 2);
         h.good("int v; chan c; { par { { c ! 1; c ! 2; v = 5; } | { int x; c ? x; } } }");
         h.due("run", h.forge.run(20000), 2);
         h.holds("v", 0);
@@ -80,5 +86,41 @@ public final class WorkTest {
         h.due("run with nothing new", h.forge.run(1), 2);
         h.counts(7, 0);
         h.holds("n", 2);
+    }
+
+    /** What waited for an in or out and then was done does not come to work again. */
+    private static void waitsNoLonger(Harness h) {
+        h.fresh();
+        h.good("in i; in j; out o; int v; int w; { i ? v; repeat 41 o ! v; j ? w; }");
+        h.due("run", h.forge.run(20000), 2);
+        h.counts(7, 2);
+        h.forge.give(0, 5);
+        h.due("run", h.forge.run(20000), 2);
+        h.holds("v", 5);
+        h.counts(9, 40);
+        h.due("give", h.forge.give(0, 6), 1);
+        h.due("run while the out is full", h.forge.run(20000), 2);
+        h.counts(7, 0);
+        h.holds("v", 5);
+        h.due("take", h.forge.take(0), 5);
+        h.due("run", h.forge.run(20000), 2);
+        h.counts(7, 1);
+        h.due("take", h.forge.take(0), 5);
+        h.due("run while the other in is empty", h.forge.run(20000), 2);
+        h.counts(7, 0);
+        h.counts(9, 39);
+        h.holds("v", 5);
+        h.due("give", h.forge.give(0, 7), 2);
+        h.forge.give(1, 8);
+        h.due("run", h.forge.run(20000), 1);
+        h.holds("w", 8);
+        h.forge.give(1, 9);
+        h.due("run when ended", h.forge.run(20000), 1);
+        h.counts(7, 0);
+        h.counts(8, 1);
+        h.counts(9, 39);
+        h.holds("v", 5);
+        h.holds("w", 8);
+        h.due("give", h.forge.give(0, 10), 3);
     }
 }
