@@ -12,6 +12,7 @@ public final class ParRuleTest {
         lines(h);
         calls(h);
         beside(h);
+        inside(h);
         eachOfTheMost(h);
         h.close();
     }
@@ -157,5 +158,21 @@ public final class ParRuleTest {
         h.good("int v; { v = 1; par { v = v + 1; | skip; } v = v + 1; }");
         h.good("chan c; int v; proc p() {} { par { c ! 1; | c ? v; } par { c ? v; | c ! 2; } par { p(); | skip; } p(); }");
         h.good("int v; int w; { par { par { v = 1; | skip; } | w = 1; } par { w = v; | skip; } }");
+    }
+
+    /** A par in a proc, in a fun or in another par is told as any other. */
+    private static void inside(Harness h) {
+        h.fault("fun f() { int y; @par { y = 1; | y = 2; } return y; } {}");
+        h.fault("fun f(x) { int y; @par { y = x; | x = 2; } return y; } {}");
+        h.fault("int v; fun f(x) {return x;} fun g() { int y; int z; @par { y = f(1); | z = f(2); } return y; } {}");
+        h.ended("int v; fun f(x) { int y; int z; par { y = x + v; | z = x * 2; } return y * 100 + z; } { v = 4; v = f(3); }");
+        h.holds("v", 706);
+        h.fault("int v; proc p() { if (v) while (v) { skip; @par { v = 1; | v = 2; } } } {}");
+        h.fault("int v; int w; { par { { skip; @par { v = 1; | { int x; x = v; } } } | w = 1; } }");
+        // What two branches inside may share, a third one outside may not.
+        h.good("int u; int v; int w; { par { par { u = v; | w = v; } | skip; } }");
+        h.fault("int u; int v; int w; { @par { par { u = v; | w = v; } | v = 1; } }");
+        h.fault("chan c; int v; { @par { par { c ! 1; | c ? v; } | c ! 2; } }");
+        h.fault("proc p() {} { @par { par { p(); | skip; } | par { skip; | p(); } } }");
     }
 }

@@ -5,6 +5,7 @@ public final class TokenTest {
     public static void main(String[] args) {
         Harness h = new Harness("TokenTest");
         blanks(h);
+        anywhereBetween(h);
         everyByte(h);
         names(h);
         longNames(h);
@@ -31,6 +32,30 @@ public final class TokenTest {
         h.fault("  \n @");
         h.fault("{ @");
         h.fault("{} @{}");
+    }
+
+    /** Between any two tokens, and none where the tokens tell themselves apart: the circuit is the same. */
+    private static void anywhereBetween(Harness h) {
+        String text = "var b : 3 ; int v ; array a [ 4 ] ; chan c ; in i ; out o ; proc p ( x , y ) { int z ; z = x ; v = y ; } "
+                + "fun f ( x ) { int y ; y = - x ; return ( y + 1 ) ; } { int w ; if ( v ) skip ; else { } while ( v < 3 ) "
+                + "v = v + 1 ; repeat 2 w = w + 1 ; a [ v ] = w << 2 ; p ( 1 , v * w ) ; par { o ! f ( 2 ) ; | b = ~ 0 >> 1 ; } }";
+        String close = text.replaceAll(" (?=[^a-z0-9])|(?<=[^a-z0-9]) ", "");
+        for (String blank : new String[] {" ", "\n", "  ", "\n \n"}) {
+            sameCircuit(h, text.replace(" ", blank));
+            sameCircuit(h, blank + close + blank);
+        }
+        h.due("the text with as few blanks as can be", close.chars().filter(c -> c == ' ').count(), 13);
+        sameCircuit(h, close);
+    }
+
+    private static void sameCircuit(Harness h, String text) {
+        h.ended(text);
+        h.counts(0, 48);
+        h.counts(7, 68);
+        h.holds("v", 6);
+        h.holds("a", 3, 8);
+        h.holds("b", 7);
+        h.due("take", h.forge.take(0), -1);
     }
 
     /** Every byte behind a number: it goes on with it, or is the first of what can or can not stand there, or of none. */
