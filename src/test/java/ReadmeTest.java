@@ -10,6 +10,8 @@ import java.util.regex.Pattern;
 public final class ReadmeTest {
     private static final Pattern CALL = Pattern.compile("forge\\.(\\w+)\\(([^)]*)\\); *// (-?\\d+).*");
     private static final Pattern PUT = Pattern.compile("put\\(forge, \"([^\"]*)\"\\); *// (-?\\d+).*");
+    /** Where, in the text that README.md shows, the words on the right begin. */
+    private static final int SAID_FROM = 56;
     private static final String PUT_HEAD = "static int put(HandshakeForge forge, String text) {";
 
     private final Harness h = new Harness("ReadmeTest");
@@ -26,6 +28,7 @@ public final class ReadmeTest {
         }
         test.h.due("the example has calls", calls > 20 ? 1 : 0, 1);
         test.samePut(lines);
+        test.text(lines);
         for (Method method : HandshakeForge.class.getMethods()) {
             if (method.getDeclaringClass() == HandshakeForge.class) {
                 test.told(lines, method.getName());
@@ -55,6 +58,20 @@ public final class ReadmeTest {
             types[i] = int.class;
         }
         return ((Number) HandshakeForge.class.getMethod(name, types).invoke(h.forge, arguments)).longValue();
+    }
+
+    /** The text that shows all kinds of statements, without what is said of them on the right. */
+    private void text(List<String> lines) {
+        StringBuilder text = new StringBuilder();
+        for (int i = lines.indexOf("```text") + 1; i < lines.size() && !lines.get(i).equals("```"); i++) {
+            String line = lines.get(i);
+            text.append(line.length() > SAID_FROM ? line.substring(0, SAID_FROM) : line).append('\n');
+        }
+        h.due("README.md has a text", text.indexOf("par {") > 0 ? 1 : 0, 1);
+        h.good(text.toString());
+        h.due("give", h.forge.give(0, 1), 1);
+        h.due("run", h.forge.run(20000), 2);
+        h.due("take", h.forge.take(0), 6);
     }
 
     /** The put that is tried here is the one that is told there. */
